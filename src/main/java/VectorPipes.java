@@ -1176,15 +1176,11 @@ public final class VectorPipes {
             return odd;
         }
 
-        private boolean bothInfinite(Num by) {
-            return isInfinite(value) && isInfinite(by.value);
-        }
-
         void plus(Num by) {
             if (takesOdd(by)) {
                 return;
             }
-            if (bothInfinite(by) && value != by.value) {
+            if (isInfinite(value) && value == -by.value) {
                 setOdd();
             } else {
                 value = value + by.value;
@@ -1195,7 +1191,7 @@ public final class VectorPipes {
             if (takesOdd(by)) {
                 return;
             }
-            if (bothInfinite(by) && value == by.value) {
+            if (isInfinite(value) && value == by.value) {
                 setOdd();
             } else {
                 value = value - by.value;
@@ -1217,7 +1213,7 @@ public final class VectorPipes {
             if (takesOdd(by)) {
                 return;
             }
-            if ((value == 0.0 && by.value == 0.0) || bothInfinite(by)) {
+            if ((value == 0.0 && by.value == 0.0) || (isInfinite(value) && isInfinite(by.value))) {
                 setOdd();
             } else {
                 value = value / by.value;
@@ -1341,27 +1337,23 @@ public final class VectorPipes {
             return v;
         }
 
-        /** What is left of a division rounded towards 0, with the sign of what was divided. */
+        /** What is left of a division rounded towards 0, exactly, with the sign of what was divided. */
         void remainder(Num x, Num by) {
             if (x.odd || by.odd || Num.isInfinite(x.value) || by.value == 0.0) {
                 x.setOdd();
-            } else if (x.value != 0.0 && !Num.isInfinite(by.value)) {
-                x.value = finiteRest(x.value, by.value);
+                return;
             }
-        }
-
-        private double finiteRest(double v, double by) {
-            double size = v < 0.0 ? -v : v;
-            double bySize = by < 0.0 ? -by : by;
-            if (size < bySize) {
-                return v;
+            double size = x.value < 0.0 ? -x.value : x.value;
+            double bySize = by.value < 0.0 ? -by.value : by.value;
+            if (size < bySize || size == 0.0) {
+                return;
             }
             split(bySize);
             long divisor = mantissa;
             int unit = exponent;
             split(size);
             if (divisor <= 0L) {
-                return v;
+                return;
             }
             long rest = mantissa % divisor;
             // ten bits at a time: as many as a long has above the 53 of the rest
@@ -1369,7 +1361,7 @@ public final class VectorPipes {
                 rest = (rest << Math.min(gap, 10)) % divisor;
             }
             double result = join(rest, unit);
-            return v < 0.0 ? -result : result;
+            x.value = x.value < 0.0 ? -result : result;
         }
     }
 
@@ -1408,7 +1400,9 @@ public final class VectorPipes {
         /** Of one of the same length. */
         void copyFrom(Row from) {
             System.arraycopy(from.values, 0, values, 0, Math.min(values.length, from.values.length));
-            System.arraycopy(from.odd, 0, odd, 0, Math.min(odd.length, from.odd.length));
+            for (int i = 0; i < odd.length && i < from.odd.length; i++) {
+                odd[i] = from.odd[i];
+            }
         }
     }
 
@@ -1554,7 +1548,9 @@ public final class VectorPipes {
         }
 
         private void note(int when) {
-            cycles = Math.max(cycles, when);
+            if (when > cycles) {
+                cycles = when;
+            }
         }
 
         private static int cell(int row, int i) {
@@ -1760,26 +1756,22 @@ public final class VectorPipes {
             base = 0;
             int k = 0;
             for (int turn = 0; turn < MOST_TURNS && k != NONE; turn++) {
+                Instr in = m.plan.at(k);
                 if (strip != null && k >= strip.behind) {
                     k = endRound();
+                } else if (in == null) {
+                    k = NONE;
                 } else {
-                    k = step(k);
+                    times.beginInstr(k, in, m.vl);
+                    boolean fine = in.op.unit == NO_UNIT ? doAtOnce(k, in) : doElements(k, in);
+                    times.done += fine ? 1 : 0;
+                    k = fine ? behind(k, in) : NONE;
                 }
             }
         }
 
         /** Where the run goes on behind the INSTRUCTION at k, NONE if it ends there. */
-        private int step(int k) {
-            Instr in = m.plan.at(k);
-            if (in == null) {
-                return NONE;
-            }
-            times.beginInstr(k, in, m.vl);
-            boolean fine = in.op.unit == NO_UNIT ? doAtOnce(k, in) : doElements(k, in);
-            if (!fine) {
-                return NONE;
-            }
-            times.done++;
+        private int behind(int k, Instr in) {
             if (in.op == Op.STRIP) {
                 return beginStrip(k, in);
             }

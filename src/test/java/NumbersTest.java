@@ -89,6 +89,10 @@ public final class NumbersTest {
         Check.told(x, "word(5)", x.word(5), 0, -1, 63);
         Check.told(x, "word(6)", x.word(6), 0, -5, 0);
         Check.told(x, "word(7)", x.word(7), 0, 1, 53);
+        x.poke(32, 3, 0);
+        Check.fine(x, "pokeAll(30, 0, 2)", x.pokeAll(30, 0, 2), 2);
+        Check.told(x, "word(31)", x.word(31), 0, -1, 63);
+        Check.told(x, "word(32) behind them", x.word(32), 0, 3, 0);
         wholesaleRefusals(x);
         x.strange(0, 5);
         x.strange(1, 3);

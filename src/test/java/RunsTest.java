@@ -204,6 +204,14 @@ public final class RunsTest {
         Check.fine(x, "ran(5)", x.ran(5), 8);
         Check.fine(x, "time(1, 0)", x.time(1, 0), 17);
         Check.fine(x, "time(1, 1)", x.time(1, 1), 24);
+        // nothing of a strip that was left by a TRAP, by a stop is there in the run behind
+        Check.program(x, "setvl 2; load vf at 0 by 1; load vf at 62 by 1; stop;");
+        Check.fine(x, "run() behind a TRAP within a strip", x.run(), 4);
+        Check.program(x, "strip 40; setvl 3; stop; end;");
+        Check.fine(x, "run() with a stop within a strip", x.run(), 3);
+        Check.program(x, "setvl 2; load vf at 0 by 1; load vf at 62 by 1; count sa; stop;");
+        Check.fine(x, "run() behind a stop within a strip", x.run(), 5);
+        Check.fine(x, "many(0)", x.many(0), 2);
         x = with(2, "strip 40; load ve at 30 by 2; end;");
         Check.refused(x, "run()", x.run(), 12);
         Check.fine(x, "ran(5)", x.ran(5), 1);
