@@ -83,6 +83,7 @@ public final class BasicsTest {
         Check.refused(x, "read(0, 60)", x.read(0, 60), 4);
         Check.refused(x, "read(0, -1)", x.read(0, -1), 4);
         Check.refused(x, "read(-1, 0)", x.read(-1, 0), 1);
+        Check.fine(x, "read(0, 59) behind refusals", x.read(0, 59), -7);
         Check.fine(x, "tray(0, 3, 60)", x.tray(0, 3, 60));
         Check.fine(x, "read(0, 59) anew", x.read(0, 59), 0);
         x.write(0, 0, -1);
@@ -177,6 +178,9 @@ public final class BasicsTest {
         Check.due("the tape behind a FAULT", x.feed(0, 0, 0, 0, 0), 20);
         Check.fine(x, "many(4): the old one", x.many(4), 1);
         Check.fine(x, "time(0, 0) of the old one", x.time(0, 0), 0);
+        Check.fine(x, "program(0)", x.program(0), 0);
+        Check.due("fault(0) of program(0)", x.fault(0), 0);
+        Check.due("fault(1) of program(0)", x.fault(1), -1);
         Check.due("fault(2)", x.fault(2), -1);
         Check.due("fault(-1)", x.fault(-1), -1);
         Check.taken("", 0);
@@ -211,6 +215,9 @@ public final class BasicsTest {
         Check.fault("flipp;", 2, 0);
         Check.fault("fli;", 2, 0);
         Check.fault("masked;", 2, 0);
+        Check.fault("z;", 2, 0);
+        Check.fault("a;", 2, 0);
+        Check.fault("9;", 2, 0);
         Check.fault("flip flip;", 2, 5);
         Check.fault("setvl", 2, 5);
         Check.fault("setvl  ", 2, 7);

@@ -101,6 +101,7 @@ public final class NumbersTest {
         x.poke(4, 255, 0);
         x.tray(1, 3, 6);
         x.tray(2, 0, 6);
+        x.write(1, 0, 66);
         x.write(1, 5, 77);
         Check.fine(x, "peekAll(0, 1, 5)", x.peekAll(0, 1, 5), 5);
         long[] longs = {0, Long.MAX_VALUE, Long.MIN_VALUE, -3, 255, 77};

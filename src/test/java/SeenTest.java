@@ -87,6 +87,26 @@ public final class SeenTest {
         Check.fine(x, "sums(1)", x.sums(1), 1);
         x.rule(0, 2);
         Check.told(x, "sum(1, 1) of an infinite one", x.sum(1, 1), 3, 0, 0);
+        // two great ones are infinite together, but not when a minus infinite one is ahead of them
+        x.rule(0, 3);
+        x.strange(2, 4);
+        x.poke(0, (1L << 53) - 1, 200);
+        x.poke(1, (1L << 53) - 1, 200);
+        x.poke(3, 1, 200);
+        x.poke(4, 1, 171);
+        Check.program(x, "load va at 3 by 0; load vc at 4 by 0; load vb at 0 by 1; mul vb vb va; mul vb vb va;"
+            + " mul vb vb va; mul vb vb vc;");
+        x.run();
+        Check.told(x, "the greatest NUMBER", x.element(1, 0), 0, (1L << 53) - 1, 971);
+        Check.told(x, "sum(1, 0) of the greatest", x.sum(1, 0), 5, 0, 0);
+        Check.told(x, "sum(1, 1) of the greatest", x.sum(1, 1), 4, 0, 0);
+        Check.fine(x, "sums(1) of the greatest", x.sums(1), 2);
+        Check.program(x, "sub vd vf vb;");
+        for (int i = 0; i < 3; i++) {
+            x.put(5, i, 0, 0);
+        }
+        x.run();
+        Check.told(x, "the least NUMBER", x.element(3, 0), 0, 1 - (1L << 53), 971);
     }
 
     private static void halvings() {
@@ -151,6 +171,9 @@ public final class SeenTest {
         Check.fine(x, "banksFor(0, 3, 3)", x.banksFor(0, 3, 3), 4);
         Check.fine(x, "banksFor(0, 0, 1)", x.banksFor(0, 0, 1), 1);
         Check.fine(x, "banksFor(0, 0, 0)", x.banksFor(0, 0, 0), 1);
+        x.rule(2, 8);
+        Check.fine(x, "banksFor(0, 6, 12)", x.banksFor(0, 6, 12), 16);
+        x.rule(2, 3);
         Check.refused(x, "banksFor(0, 64, 2)", x.banksFor(0, 64, 2), 8);
         Check.refused(x, "banksFor(7, 0, 2)", x.banksFor(7, 0, 2), 8);
         Check.fine(x, "worst(0, 3)", x.worst(0, 3), 5);
