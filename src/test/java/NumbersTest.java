@@ -43,10 +43,10 @@ public final class NumbersTest {
     }
 
     private static void values() {
-        VectorPipes x = new VectorPipes();
         long most = 1L << 53;
         long[] ms = {1, -1, 3, most, -most, most - 1, 1 - most, 0, 12, 1L << 52, 12345678901234L};
         for (long m : ms) {
+            VectorPipes x = new VectorPipes();
             for (int e = -200; e <= 200; e += 25) {
                 long mantissa = m;
                 int exponent = m == 0 ? 0 : e;

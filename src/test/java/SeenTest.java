@@ -112,6 +112,7 @@ public final class SeenTest {
     private static void halvings() {
         VectorPipes x = new VectorPipes();
         for (int n = 1; n <= 16; n++) {
+            x = new VectorPipes();
             int[] round = new int[16];
             int[] partner = new int[16];
             int turn = 0;
