@@ -31,6 +31,7 @@ public final class FormsTest {
         limits();
         strips();
         order();
+        oneBehindAnother();
         Check.end();
     }
 
@@ -306,5 +307,25 @@ public final class FormsTest {
         Check.fault("setvl 999999", 1, 6);
         Check.fault("setvl 17", 4, 6);
         Check.fault("setvl 16", 2, 8);
+    }
+
+    /** What a text with a FAULT began is gone with it. */
+    private static void oneBehindAnother() {
+        String[] begun = {"strip 1;", "strip 1; flip", "setvl", "load va at 1 by", "add va vb vc masked", "!", "flip;".repeat(31)};
+        for (String text : begun) {
+            VectorPipes x = new VectorPipes();
+            Check.refused(x, "program of " + text, Check.program(x, text), 10);
+            Check.refused(x, "end; behind " + text, Check.program(x, "end;"), 10);
+            Check.due("fault(0)", x.fault(0), 2);
+            Check.due("fault(1)", x.fault(1), 0);
+            Check.refused(x, "1; behind " + text, Check.program(x, "1;"), 10);
+            Check.due("fault(0)", x.fault(0), 2);
+            Check.refused(x, "; behind " + text, Check.program(x, ";"), 10);
+            Check.due("fault(1)", x.fault(1), 0);
+            Check.program(x, text);
+            Check.fine(x, "a strip behind " + text, Check.program(x, "strip 2; copy va vb; end;"), 2);
+            Check.program(x, text);
+            Check.fine(x, "nothing behind " + text, x.program(0), 0);
+        }
     }
 }

@@ -382,6 +382,16 @@ public final class TimesTest {
         // all BANKS are free when a run begins
         x.run();
         Check.fine(x, "ran(0) of the run again", x.ran(0), 8);
+        x = timed(4, 4, "load ve at 0 by 8;", 17, 0, 12);
+        x.run();
+        Check.fine(x, "ran(1) of the run again", x.ran(1), 9);
+        Check.fine(x, "time(0, 1) of the run again", x.time(0, 1), 12);
+        x.stalls(0, 0, 64);
+        x.worst(0, 64);
+        x.swapGain(0);
+        Check.fine(x, "ran(1) behind what is seen without a run", x.ran(1), 9);
+        x.run();
+        Check.fine(x, "ran(1) of the third run", x.ran(1), 9);
     }
 
     private static void bankPair(int banks, int place, int taken, int stalls) {

@@ -412,27 +412,27 @@ public final class TrapsTest {
 
     /** How often, by which VL and BASE: the last time with 1 to 16. */
     private static void rounds() {
-        for (int n : new int[] {0, 1, 2, 15, 16, 17, 31, 32, 33, 47, 48, 49, 63, 64}) {
-            VectorPipes x = with(3, "fill vf sb; strip " + n + "; load va at 0 by 1; add vb va vf; store vb at 0 by 1; end;"
-                + "iota vc; store vc at 0 by 0;");
-            x.give(1, 1, 0);
+        for (int n : new int[] {0, 1, 2, 15, 16, 17, 31, 32, 33, 47, 48, 49, 59, 60}) {
+            VectorPipes x = with(3, "strip " + n + "; load va at 0 by 1; add vb va vf; store vb at 0 by 1; end;"
+                + "iota vc; store vc at 61 by 1; strip 2; store vc at 60 by 1; end; store vc at 61 by 1;");
+            for (int i = 0; i < 16; i++) {
+                x.put(5, i, 1, 0);
+            }
             x.tray(0, 3, 60);
             for (int i = 0; i < 60; i++) {
                 x.write(0, i, 100 + i);
             }
             x.pokeAll(0, 0, 60);
-            x.rule(0, 16);
             int rounds = (n + 15) / 16;
-            ran(x, "strip " + n, 2 + 3 * rounds + 2);
-            Check.fine(x, "many(0) behind strip " + n, x.many(0), 16);
-            // BASE 0 again: the store behind the strip comes to WORD 0, the last time with 15
-            Check.whole(x, "word(0)", x.word(0), 15);
-            for (int a = 1; a < 60; a++) {
+            ran(x, "strip " + n, 1 + 3 * rounds + 2 + 2 + 1);
+            Check.fine(x, "many(0): as it was", x.many(0), 3);
+            for (int a = 0; a < 60; a++) {
                 Check.whole(x, "word(" + a + ") of strip " + n, x.word(a), 100 + a + (a < n ? 1 : 0));
             }
-            x.rule(0, 3);
-            ran(x, "strip " + n, 2 + 3 * rounds + 2);
-            Check.fine(x, "many(0) behind strip " + n, x.many(0), 3);
+            // BASE is 0 behind and between them: else these were TRAPS
+            Check.whole(x, "word(60)", x.word(60), 0);
+            Check.whole(x, "word(61)", x.word(61), 0);
+            Check.whole(x, "word(63)", x.word(63), 2);
         }
         VectorPipes x = with(3, "strip 40; setvl 2; iota va; end; fill vb sa;");
         ran(x, "setvl in a strip", 1 + 3 * 2 + 1);
